@@ -148,9 +148,6 @@ public final class ResumableCoder {
     }
 
     public int fetch() {
-        if (output.count() == 0) {
-            return -1;
-        }
         int unit = output.at(0);
         output.drop(1);
         return unit;
@@ -670,7 +667,6 @@ public final class ResumableCoder {
 
         void begin() {
             now.becomePlain();
-            next.becomePlain();
         }
 
         void stepMade() {

@@ -42,6 +42,9 @@ public final class FaceTest {
         for (Class<?> c : type.getDeclaredClasses()) {
             DUE.yes(c + " static", Modifier.isStatic(c.getModifiers()));
             DUE.no(c + " public", Modifier.isPublic(c.getModifiers()));
+            for (Method m : c.getDeclaredMethods()) {
+                DUE.no(m + " bears a public name", names.contains(m.getName()));
+            }
         }
         DUE.end();
     }

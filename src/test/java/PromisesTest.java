@@ -244,6 +244,12 @@ public final class PromisesTest {
         DUE.same("6 none for the end's fault", Due.run(end, true, 226, 130), "1:");
         end.room(1);
         DUE.same("6 one for the end's fault", Due.run(end, true), "0: 65533");
+        ResumableCoder many = Due.opened(2, true, PASS_OVER, REPORT);
+        for (int i = 0; i < 24; i++) {
+            many.give(56320);
+        }
+        DUE.same("6 as many faults as may wait", Due.run(many, true), "0: 254 255");
+        DUE.all("6 all passed over", many, "2 0 0 24 2 24");
         ResumableCoder none = Due.opened(0, false, PASS_OVER, REPORT);
         none.room(0);
         DUE.same("6 passing over needs no room", Due.run(none, true, 255, 254), "0:");
@@ -282,6 +288,11 @@ public final class PromisesTest {
             other.code(true);
             DUE.same("7 set " + set, other.flush(), 0);
             DUE.all("7 counts of set " + set, other, "3 0 0 0 0 0");
+            other.reset();
+            Due.run(other, true, 65, 66);
+            int puts = other.put();
+            DUE.same("7 set " + set + " with units", other.flush(), 0);
+            DUE.all("7 counts then", other, "3 0 0 2 " + puts + " 0");
         }
     }
 

@@ -54,6 +54,7 @@ public final class SetsTest {
         decodes(0, "0: 55295 57344", 237, 159, 191, 238, 128, 128);
         decodes(0, "0: 55296 56320 56319 57343", 240, 144, 128, 128, 244, 143, 191, 191);
         decodes(0, "0: 65279", 239, 187, 191);
+        decodes(0, "0: 56319 56320 55296 57343", 244, 143, 176, 128, 240, 144, 143, 191);
         int[] whole = {240, 159, 152, 128};
         for (int n = 1; n < 4; n++) {
             ResumableCoder x = Due.decoder(0);
@@ -72,6 +73,10 @@ public final class SetsTest {
             decodes(0, "17:", b, 128, 128, 128);
         }
         decodes(0, "17:", 194, 65);
+        decodes(0, "17:", 194, 127);
+        decodes(0, "17:", 225, 127);
+        decodes(0, "18:", 224, 160, 127);
+        decodes(0, "18:", 224, 160, 192);
         decodes(0, "17:", 194, 192);
         decodes(0, "17:", 224, 159, 128);
         decodes(0, "17:", 237, 160, 128);
@@ -129,6 +134,9 @@ public final class SetsTest {
         }
         encodes(2, "0: 254 255", 55296);
         encodes(2, "17: 254 255", 56320);
+        ResumableCoder counted = Due.encoder(2);
+        Due.run(counted, false, 55357, 56832, 65, 66);
+        DUE.all("the mark takes nothing", counted, "1 0 0 4 10 0");
         ResumableCoder x = Due.encoder(2);
         x.room(1);
         DUE.same("the mark needs room", Due.run(x, false, 65), "1:");
@@ -163,6 +171,9 @@ public final class SetsTest {
         decodes(4, "0: 55357 56832", 61, 216, 0, 222);
         decodes(4, "18:", 0, 220);
         decodes(4, "18:", 61, 216, 65, 0);
+        ResumableCoder counted = Due.decoder(3);
+        Due.run(counted, false, 216, 61, 222, 0, 0, 65, 0);
+        DUE.all("four and two taken", counted, "1 1 0 6 3 0");
         ResumableCoder x = Due.decoder(3);
         Due.give(x, 216, 61, 222);
         DUE.same("incomplete at the end", x.code(true), 19);
@@ -184,6 +195,10 @@ public final class SetsTest {
         decodes(2, "0: 55357 56832", 255, 254, 61, 216, 0, 222);
         decodes(2, "18:", 255, 254, 0, 220);
         decodes(2, "0:", 255);
+        decodes(2, "0: 65025", 254, 1);
+        decodes(2, "0: 511", 1, 255);
+        decodes(2, "0: 65281", 255, 1);
+        decodes(2, "0: 510", 1, 254);
         ResumableCoder x = Due.decoder(2);
         x.room(0);
         DUE.same("a mark needs no room", Due.run(x, false, 255, 254, 65, 0), "1:");
@@ -278,6 +293,14 @@ public final class SetsTest {
         DUE.same("until a character is there", y.waiting(), 2);
         y.room(1);
         DUE.same("it is put once", Due.run(y, false), "0: 228");
+        Due.give(y, 'a', '+');
+        y.room(1);
+        y.code(false);
+        y.room(0);
+        Due.give(y, 'A', 'A');
+        DUE.same("what puts nothing fits though more is ready", y.code(false), 0);
+        y.reset();
+        y.fetch();
         y.room(0);
         DUE.same("plus and minus", Due.run(y, false, '+', '-'), "1:");
         y.room(1);
@@ -296,7 +319,9 @@ public final class SetsTest {
         x.map(255, 56320);
         x.map(200, 55296);
         x.map(201, 65);
+        x.map(128, 56321);
         x.open(6, true, 0, 0);
+        DUE.same("the first byte", Due.run(x, false, 56321), "0: 128");
         DUE.same("given surrogates", Due.run(x, false, 55296, 56320, 65), "0: 200 255 65");
         DUE.same("a given high one alone", Due.run(x, false, 55296), "0: 200");
         DUE.same("a pair of another high one", Due.run(x, false, 55297, 56320), "34:");
