@@ -57,6 +57,12 @@ final class Due {
         }
     }
 
+    static void giveTimes(ResumableCoder x, int n, int unit) {
+        for (int i = 0; i < n; i++) {
+            x.give(unit);
+        }
+    }
+
     /** Gives, codes, and tells the answer and, behind a colon, all that is ready then. */
     static String run(ResumableCoder x, boolean ends, int... units) {
         give(x, units);

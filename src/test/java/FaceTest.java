@@ -4,9 +4,10 @@ import java.lang.reflect.Method;
 import java.lang.reflect.Modifier;
 import java.util.TreeSet;
 
-/** The class shows the document's face and nothing else (rule 1 of LANGUAGE.md). */
+/** The class shows the document's face and nothing else (rules 1, 2 and 11 of LANGUAGE.md). */
 public final class FaceTest {
     private static final Due DUE = new Due();
+    private static final int MOST_FIELDS = 20;
     private static final String FACE = "boolean give(int), boolean map(int,int), "
             + "boolean open(int,boolean,int,int), boolean pass(), boolean reset(), "
             + "boolean room(int), int code(boolean), int faults(), int fetch(), int flush(), "
@@ -39,7 +40,9 @@ public final class FaceTest {
         DUE.same("constructors", made.length, 1);
         DUE.yes("public without parameters", Modifier.isPublic(made[0].getModifiers())
                 && made[0].getParameterCount() == 0);
+        DUE.yes(type + " fields", fieldsBesideConstants(type) <= MOST_FIELDS);
         for (Class<?> c : type.getDeclaredClasses()) {
+            DUE.yes(c + " fields", fieldsBesideConstants(c) <= MOST_FIELDS);
             DUE.yes(c + " static", Modifier.isStatic(c.getModifiers()));
             DUE.no(c + " public", Modifier.isPublic(c.getModifiers()));
             for (Method m : c.getDeclaredMethods()) {
@@ -47,6 +50,14 @@ public final class FaceTest {
             }
         }
         DUE.end();
+    }
+
+    private static int fieldsBesideConstants(Class<?> type) {
+        int fields = 0;
+        for (Field f : type.getDeclaredFields()) {
+            fields += Modifier.isStatic(f.getModifiers()) ? 0 : 1;
+        }
+        return fields;
     }
 
     private static String signature(Method m) {

@@ -2,6 +2,7 @@ import java.io.IOException;
 import java.nio.file.Files;
 import java.nio.file.Path;
 import java.util.regex.Pattern;
+import java.util.stream.Stream;
 
 /**
  * What of LANGUAGE.md can be read from the program's text: words and signs that its rules leave
@@ -20,6 +21,7 @@ public final class LanguageTest {
         String code = Files.readString(Path.of(PROGRAM)).replaceAll("(?s)/\\*.*?\\*/", "");
         String bare = code.replaceAll("\"(\\\\.|[^\"\\\\])*\"", "\"\"")
                 .replaceAll("'(\\\\.|[^'\\\\])'", "' '");
+        DUE.same("one file", filesOfTheProgram(), 1);
         none("words that are left out", LEFT_OUT, bare);
         none("rule 2: lambdas and method references", "->|::", bare);
         none("rule 4: imports but Arrays", "\\bimport (?!java\\.util\\.Arrays;)", bare);
@@ -30,6 +32,12 @@ public final class LanguageTest {
         DUE.yes("rule 11: classes", found("\\bclass \\w+", bare) <= MOST_CLASSES);
         DUE.yes("rule 11: the longest method", longestMethod(code) <= MOST_LINES);
         DUE.end();
+    }
+
+    private static long filesOfTheProgram() throws IOException {
+        try (Stream<Path> all = Files.walk(Path.of("src/main"))) {
+            return all.filter(Files::isRegularFile).count();
+        }
     }
 
     private static void none(String what, String pattern, String text) {
